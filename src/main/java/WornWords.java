@@ -1959,6 +1959,7 @@ public final class WornWords {
     /** Tells STORIES in all ways, on a VILLAGE that is put back to what it was behind each. */
     private static final class Stories {
         private static final int OUT_OF_REACH = 99;
+        private static final int NOT_ASKED = -2;
 
         final int[] first = new int[MOST_TOLD];
         int firstMany = 0;
@@ -1967,6 +1968,10 @@ public final class WornWords {
         private final int[] twins = new int[MOST_TOLD];
         private final Word[] saidBefore = new Word[MOST_TOLD];
         private final Word[] twinBefore = new Word[MOST_TOLD];
+        /** The place that each word would lose as it is, so that the LAW is asked only about words that have changed. */
+        private final int[] places = new int[MOST_WORDS];
+        private final int[] placeBefore = new int[MOST_TOLD];
+        private final int[] twinPlaceBefore = new int[MOST_TOLD];
         private int many = 0;
         private int fewest = OUT_OF_REACH;
 
@@ -1991,16 +1996,19 @@ public final class WornWords {
         }
 
         int countRows(Village here) {
+            forgetPlaces();
             return rowsFrom(here, 0);
         }
 
         int farthest(Village here) {
+            forgetPlaces();
             return farthestFrom(here, 0);
         }
 
         /** The fewest letters, the FIRST row being kept; NONE, and the row ahead stays, if it can't be told. */
         int fewestLetters(Village here) {
             fewest = OUT_OF_REACH;
+            forgetPlaces();
             seekFewest(here, 0, 0);
             if (fewest == OUT_OF_REACH) {
                 return NONE;
@@ -2033,7 +2041,7 @@ public final class WornWords {
             int rows = 0;
             for (int word = 0; word < here.many; word++) {
                 if ((set >> word & 1) == 1) {
-                    step(here, depth, word);
+                    step(here, depth, word, placeLost(here, word));
                     rows += rowsFrom(here, depth + 1);
                     stepBack(here, depth, word);
                 }
@@ -2052,7 +2060,7 @@ public final class WornWords {
             int best = depth + 1;
             for (int word = 0; word < here.many && best < many; word++) {
                 if ((set >> word & 1) == 1) {
-                    step(here, depth, word);
+                    step(here, depth, word, placeLost(here, word));
                     best = Math.max(best, farthestFrom(here, depth + 1));
                     stepBack(here, depth, word);
                 }
@@ -2063,18 +2071,20 @@ public final class WornWords {
         /** Rows come by their numbers, so of those with the fewest letters the first one is kept. */
         private void seekFewest(Village here, int depth, int lost) {
             int atLeast = here.law.spares ? lost : lost + many - depth;
-            if (depth < 0 || depth >= many || atLeast >= fewest) {
+            if (depth < 0 || depth >= many) {
                 return;
             }
             int set = here.wordsWith(row[depth]);
-            for (int word = 0; word < here.many; word++) {
+            for (int word = 0; word < here.many && atLeast < fewest; word++) {
                 if ((set >> word & 1) == 1) {
                     path[depth] = word;
+                    int place = placeLost(here, word);
+                    int nowLost = place == NONE ? lost : lost + 1;
                     if (depth == many - 1) {
-                        keepIfFewer(lost + (here.placeLost(word) == NONE ? 0 : 1));
+                        keepIfFewer(nowLost);
                     } else {
-                        int more = step(here, depth, word);
-                        seekFewest(here, depth + 1, lost + more);
+                        step(here, depth, word, place);
+                        seekFewest(here, depth + 1, nowLost);
                         stepBack(here, depth, word);
                     }
                 }
@@ -2088,26 +2098,43 @@ public final class WornWords {
             }
         }
 
-        /** Says a word, keeping what stepBack needs: how many letters it loses. */
-        private int step(Village here, int depth, int word) {
+        private void forgetPlaces() {
+            for (int word = 0; word < MOST_WORDS; word++) {
+                places[word] = NOT_ASKED;
+            }
+        }
+
+        private int placeLost(Village here, int word) {
+            if (places[word] == NOT_ASKED) {
+                places[word] = here.law.placeLost(here.words[word], here.day, here.softness);
+            }
+            return places[word];
+        }
+
+        /** Says a word, keeping what stepBack needs. */
+        private void step(Village here, int depth, int word, int place) {
             Word said = here.words[word];
             saidBefore[depth].copyFrom(said);
-            int place = here.law.placeLost(said, here.day, here.softness);
+            placeBefore[depth] = place;
+            places[word] = NOT_ASKED;
             said.wear(place, here.day);
             int twin = here.alikeTo(said.form, word);
             twins[depth] = twin;
             if (twin != NONE) {
                 twinBefore[depth].copyFrom(here.words[twin]);
+                twinPlaceBefore[depth] = places[twin];
+                places[twin] = NOT_ASKED;
                 here.unite(word, twin);
             }
-            return place == NONE ? 0 : 1;
         }
 
         private void stepBack(Village here, int depth, int word) {
             here.words[word].copyFrom(saidBefore[depth]);
+            places[word] = placeBefore[depth];
             int twin = twins[depth];
             if (twin != NONE) {
                 here.words[twin].copyFrom(twinBefore[depth]);
+                places[twin] = twinPlaceBefore[depth];
             }
         }
     }

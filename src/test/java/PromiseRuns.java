@@ -806,8 +806,26 @@ public final class PromiseRuns {
         x.winter();
         isForm(x, 0, "abcab");
         given(x, "more letters than it knows", x.follows(1, 0), 0);
+        unlikeKnown("middle", "last", "abd", "abc");
+        unlikeKnown("first", "middle", "bcd", "abd");
+        unlikeKnown("last", "first", "abc", "bcd");
         x = with("meaning m;word abc means m;");
         given(x, "spread without SPEAKERS", x.spread(0), 0);
+    }
+
+    /** A letter goes and comes back, and another one goes: as many letters as are known, but not the same. */
+    private static void unlikeKnown(String one, String other, String known, String heard) {
+        WornWords x = with("meaning m;speaker a;speaker b;word abcd means m;", "if said=0 drop " + one + ";if said=1 drop none;");
+        x.say(0);
+        given(x, "tell", x.tell(0, 0, 2), 2);
+        given(x, "knows", x.knows(1, 0), number(known));
+        x.winter();
+        x.winter();
+        isForm(x, 0, "abcd");
+        law(x, "if size=4 drop " + other + ";");
+        x.say(0);
+        isForm(x, 0, heard);
+        given(x, "follows, knowing " + known, x.follows(1, 0), 0);
     }
 
     private static void passing() {
