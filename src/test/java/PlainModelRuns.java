@@ -12,6 +12,7 @@ import java.util.Set;
 public final class PlainModelRuns {
     private static final int RUNS = 3000;
     private static final int CALLS = 170;
+    private static final int[] FAR = {Integer.MIN_VALUE, Integer.MIN_VALUE + 1, Integer.MAX_VALUE, Integer.MAX_VALUE - 1, 1 << 30, -32, 12, 31, 32, 33, 63, 64, 65536};
 
     public static void main(String[] args) {
         int runs = args.length > 0 ? Integer.parseInt(args[0]) : RUNS;
@@ -1035,7 +1036,7 @@ public final class PlainModelRuns {
         }
 
         long odds(int seed, int many, int days) {
-            if (seed < 0 || many < 1 || many > 20 || seed + many - 1 > 9999 || days < 1 || days > 60) {
+            if (seed < 0 || many < 1 || many > 20 || (long) seed + many - 1 > 9999 || days < 1 || days > 60) {
                 return no(1);
             }
             if (v.speakers == 0 || v.words.isEmpty()) {
@@ -1231,6 +1232,9 @@ public final class PlainModelRuns {
         }
 
         int any(int n) {
+            if (r.nextInt(80) == 0) {
+                return FAR[r.nextInt(FAR.length)];
+            }
             return r.nextInt(25) == 0 ? n + r.nextInt(3) : r.nextInt(25) == 0 ? -1 - r.nextInt(2) : n > 0 ? r.nextInt(n) : 0;
         }
 
@@ -1263,7 +1267,7 @@ public final class PlainModelRuns {
                 case 12 -> call("spread", aWord());
                 case 13 -> call("wintry");
                 case 14, 15, 16, 17 -> call("say", aWord());
-                case 18, 19, 20 -> call("tell", aSpeaker(), aWord(), r.nextInt(r.nextInt(8) == 0 ? 20 : 1 << model.v.speakers));
+                case 18, 19, 20 -> call("tell", aSpeaker(), aWord(), r.nextInt(8) == 0 ? any(20) : r.nextInt(1 << model.v.speakers));
                 case 21 -> call("follows", aSpeaker(), aWord());
                 case 22 -> call("knows", aSpeaker(), aWord());
                 case 23, 24 -> call("pass", 1 + any(r.nextInt(6) == 0 ? 99 : 5));
@@ -1274,10 +1278,10 @@ public final class PlainModelRuns {
                 case 33, 34 -> readingCalls();
                 case 35 -> call("fewestAt", any(5));
                 case 36 -> call("cheap", aMeaning());
-                case 37 -> call("gossip", r.nextInt(10100) - 50, 1 + any(60));
+                case 37 -> call("gossip", r.nextInt(8) == 0 ? any(10000) : r.nextInt(10000), 1 + any(60));
                 case 38 -> call("gossiped", any(4));
                 case 39 -> {
-                    call("odds", r.nextInt(10) == 0 ? 9980 + r.nextInt(25) : r.nextInt(9990), 1 + any(20), 1 + any(60));
+                    call("odds", r.nextInt(5) == 0 ? 9980 + any(25) : r.nextInt(9990), 1 + any(20), 1 + any(60));
                     call("top");
                     call("bottom");
                 }
@@ -1312,7 +1316,7 @@ public final class PlainModelRuns {
             for (int k = 0; k < many; k++) {
                 call("write", tray, k, aMeaning());
             }
-            int asked = r.nextInt(15) == 0 ? r.nextInt(8) : many;
+            int asked = r.nextInt(15) == 0 ? any(8) : many;
             for (String name : new String[] {"ways", "fewest", "howFar"}) {
                 call(name, tray, asked);
             }
@@ -1340,7 +1344,7 @@ public final class PlainModelRuns {
                 }
                 call("write", tray, k, form);
             }
-            call("readings", tray, r.nextInt(15) == 0 ? r.nextInt(9) : many);
+            call("readings", tray, r.nextInt(15) == 0 ? any(9) : many);
         }
 
         String letters(int most) {
