@@ -38,6 +38,8 @@ public final class PromiseRuns {
         bestCuts();
         stories();
         fewestRows();
+        unionsInStories();
+        manyTexts();
         howFarAndStory();
         readings();
         gossip();
@@ -329,6 +331,12 @@ public final class PromiseRuns {
         faulty("soft a;soft", 5, 7);
         faulty("soft abcdefghijklmnopqrstuvwxyza;", 5, 5);
         faulty("soft 5;", 2, 5);
+        faulty("soft;", 2, 4);
+        faulty("meaning;", 2, 7);
+        faulty("speaker;", 2, 7);
+        faulty("meaning x;word;", 2, 14);
+        faulty("meaning x;word a;", 2, 16);
+        faulty("meaning x;word a means;", 2, 22);
         faulty("soft a b;", 2, 7);
         faulty(twelve("meaning m", "") + "meaning", 6, 12 * 11);
         faulty("meaning x;" + twelve("word w", " means x") + "word w", 6, 10 + 12 * 16);
@@ -642,6 +650,8 @@ public final class PromiseRuns {
         refused(x, "twin of one that is GONE", x.twin(1, 0), 6);
         x = with("meaning m;word ab means m;word a means m;", "if said<38 drop none;");
         given(x, "behind 39 sayings", x.twin(0, 1), 39);
+        law(x, "if said<39 drop none;");
+        refused(x, "not on the CHAIN of 40 FORMS", x.twin(0, 1), 6);
         law(x, "if said<50 drop none;");
         refused(x, "not within 40", x.twin(0, 1), 6);
     }
@@ -806,22 +816,23 @@ public final class PromiseRuns {
         x.winter();
         isForm(x, 0, "abcab");
         given(x, "more letters than it knows", x.follows(1, 0), 0);
-        unlikeKnown("middle", "last", "abd", "abc");
-        unlikeKnown("first", "middle", "bcd", "abd");
-        unlikeKnown("last", "first", "abc", "bcd");
+        unlikeKnown("bacd", "middle", "last", "bad", "bac");
+        unlikeKnown("bacd", "first", "middle", "acd", "bad");
+        unlikeKnown("bacd", "first", "vowel", "acd", "bcd");
+        unlikeKnown("bacd", "last", "first", "bac", "acd");
         x = with("meaning m;word abc means m;");
         given(x, "spread without SPEAKERS", x.spread(0), 0);
     }
 
     /** A letter goes and comes back, and another one goes: as many letters as are known, but not the same. */
-    private static void unlikeKnown(String one, String other, String known, String heard) {
-        WornWords x = with("meaning m;speaker a;speaker b;word abcd means m;", "if said=0 drop " + one + ";if said=1 drop none;");
+    private static void unlikeKnown(String word, String one, String other, String known, String heard) {
+        WornWords x = with("meaning m;speaker a;speaker b;word " + word + " means m;", "if said=0 drop " + one + ";if said=1 drop none;");
         x.say(0);
         given(x, "tell", x.tell(0, 0, 2), 2);
         given(x, "knows", x.knows(1, 0), number(known));
         x.winter();
         x.winter();
-        isForm(x, 0, "abcd");
+        isForm(x, 0, word);
         law(x, "if size=4 drop " + other + ";");
         x.say(0);
         isForm(x, 0, heard);
@@ -1092,6 +1103,47 @@ public final class PromiseRuns {
         given(x, "the FIRST", x.fewestAt(0), 1);
         given(x, "the FIRST", x.fewestAt(1), 1);
         given(x, "nothing is said", x.word(1, 2), 0);
+    }
+
+    /** Words that become ONE while a STORY is told, and that are two again in the next row of words. */
+    private static void unionsInStories() {
+        promise = "36, 37, 39";
+        WornWords x = with("meaning m;meaning n;word ton means m;word tone means m n;", "if shared and size=3 drop none;");
+        row(x, 0, 0, 0);
+        given(x, "the one of two is shared", x.fewest(0, 2), 1);
+        given(x, "the FIRST", x.fewestAt(0), 1);
+        given(x, "the FIRST", x.fewestAt(1), 0);
+        x = with("meaning m;meaning n;word ton means m;word tone means m n;word z means n;", "if shared and size=3 drop none;if begins z drop none;");
+        row(x, 0, 1, 0);
+        given(x, "but not in the next row", x.fewest(0, 2), 1);
+        given(x, "the FIRST", x.fewestAt(0), 1);
+        given(x, "ways", x.ways(0, 2), 3);
+        x = with("meaning m;word a means m;word b means m;");
+        row(x, 0, 0, 0, 0);
+        given(x, "ways", x.ways(0, 3), 0);
+        given(x, "howFar", x.howFar(0, 3), 2);
+        refused(x, "fewest", x.fewest(0, 3), 6);
+        law(x, "if size>0 drop none;");
+        given(x, "howFar by another LAW", x.howFar(0, 3), 3);
+        law(x, "");
+        given(x, "howFar by no LAW", x.howFar(0, 3), 2);
+        law(x, "if size>0 drop none;");
+        given(x, "ways by another LAW", x.ways(0, 3), 8);
+        law(x, "");
+        given(x, "ways by no LAW", x.ways(0, 3), 0);
+        law(x, "if size>0 drop none;");
+        given(x, "fewest by another LAW", x.fewest(0, 3), 0);
+        law(x, "");
+        refused(x, "fewest by no LAW", x.fewest(0, 3), 6);
+    }
+
+    private static void manyTexts() {
+        promise = "10, 11";
+        WornWords x = with("meaning m;word abc means m;");
+        for (int k = 0; k < 60; k++) {
+            given(x, "law", law(x, k % 2 == 0 ? "if size>0 drop first;" : "if size<0 or size=9 or size=8 or size=7 or size=6 drop first;"), 1);
+            given(x, "loses(0)", x.loses(0), k % 2 == 0 ? 0 : 2);
+        }
     }
 
     private static void howFarAndStory() {
