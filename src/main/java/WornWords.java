@@ -21,6 +21,7 @@ public final class WornWords {
     private static final int MOST_HEARD = 6;
     private static final int CHAIN_FORMS = 40;
     private static final int LONGEST_LIFE = 40;
+    private static final int FARTHEST_TWIN = 40;
     private static final int LONGEST_LASTING = 200;
     private static final int LAST_DAY = 999;
     private static final int LAST_COUNTED_DAY = 99;
@@ -277,7 +278,8 @@ public final class WornWords {
             return fail(wrong);
         }
         here.tryWord(word);
-        for (int said = 1; said < CHAIN_FORMS; said++) {
+        // A TWIN may come behind the 40th saying, one more than chain() can be asked for.
+        for (int said = 1; said <= FARTHEST_TWIN; said++) {
             here.wearTried(here.day);
             int other = here.alikeTo(here.tried.form, word);
             if (other != NONE) {

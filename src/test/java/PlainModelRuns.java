@@ -821,7 +821,7 @@ public final class PlainModelRuns {
                     if (!isWord(x) || y < 0 || y > 1) {
                         return no(1);
                     }
-                    for (int k = 1; k <= 39 && !gone(x); k++) {
+                    for (int k = 1; k <= 40 && !gone(x); k++) {
                         String f = worn(x, k);
                         for (int o = 0; o < v.words.size(); o++) {
                             if (o != x && !f.isEmpty() && v.words.get(o).form.equals(f)) {
@@ -1393,6 +1393,10 @@ public final class PlainModelRuns {
 
         String randomLaw() {
             StringBuilder b = new StringBuilder();
+            if (r.nextInt(6) == 0) {
+                // Words that keep their letters for so long that what is asked ends about at the 40th saying.
+                b.append("if said<").append(34 + r.nextInt(8)).append(" drop none;");
+            }
             for (int k = r.nextInt(r.nextInt(8) == 0 ? 15 : 4); k > 0; k--) {
                 b.append("if ");
                 either(b, 0);

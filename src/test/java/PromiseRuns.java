@@ -651,9 +651,17 @@ public final class PromiseRuns {
         x = with("meaning m;word ab means m;word a means m;", "if said<38 drop none;");
         given(x, "behind 39 sayings", x.twin(0, 1), 39);
         law(x, "if said<39 drop none;");
-        refused(x, "not on the CHAIN of 40 FORMS", x.twin(0, 1), 6);
+        given(x, "the one behind 40 sayings", x.twin(0, 0), 1);
+        given(x, "behind 40 sayings", x.twin(0, 1), 40);
+        law(x, "if said<40 drop none;");
+        refused(x, "behind 41 sayings: none within 40", x.twin(0, 0), 6);
+        refused(x, "behind 41 sayings: none within 40", x.twin(0, 1), 6);
+        x.say(0);
+        given(x, "one was said: 40 are left", x.twin(0, 1), 40);
         law(x, "if said<50 drop none;");
         refused(x, "not within 40", x.twin(0, 1), 6);
+        x = with("meaning m;word a means m;word b means m;", "if said<39 drop none;");
+        refused(x, "GONE behind 40 sayings is alike to none", x.twin(0, 0), 6);
     }
 
     private static void commonAndRhymes() {
