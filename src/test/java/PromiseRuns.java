@@ -2,10 +2,7 @@
  * Promise by promise: ordinary inputs, the edges that the document names, and wrong inputs.
  * The answers that are due were worked out by hand from the document.
  */
-public final class PromiseRuns {
-    private static int wrong = 0;
-    private static String promise = "";
-
+public final class PromiseRuns extends Checks {
     private static final String SUN = "meaning sun;meaning moon;speaker u;speaker v;soft eao;"
             + "word stone means sun;word ton means moon;word tone means sun moon;";
 
@@ -46,97 +43,7 @@ public final class PromiseRuns {
         odds();
         marks();
         nothingElseChanges();
-        System.out.println(wrong == 0 ? "all promises hold" : wrong + " answers are not as due");
-        if (wrong != 0) {
-            System.exit(1);
-        }
-    }
-
-    private static void due(String call, long got, long want) {
-        if (got != want) {
-            wrong++;
-            System.out.println("promise " + promise + ": " + call + " answered " + got + ", due is " + want);
-        }
-    }
-
-    private static void due(String call, boolean got, boolean want) {
-        due(call, got ? 1 : 0, want ? 1 : 0);
-    }
-
-    /** An answer NONE with a STATUS. */
-    private static void refused(WornWords x, String call, long got, int status) {
-        due(call, got, -1);
-        due(call + ": status", x.status(), status);
-    }
-
-    private static void refused(WornWords x, String call, boolean got, int status) {
-        due(call, got, false);
-        due(call + ": status", x.status(), status);
-    }
-
-    /** An answer with STATUS 0. */
-    private static void given(WornWords x, String call, long got, long want) {
-        due(call, got, want);
-        due(call + ": status", x.status(), 0);
-    }
-
-    private static void feed(WornWords x, String text) {
-        for (int k = 0; k < text.length(); k += 20) {
-            int[] five = new int[5];
-            for (int b = 0; b < 20; b++) {
-                five[b / 4] = five[b / 4] << 8 | (k + b < text.length() ? text.charAt(k + b) : 0);
-            }
-            x.feed(five[0], five[1], five[2], five[3], five[4]);
-        }
-    }
-
-    private static int village(WornWords x, String text) {
-        feed(x, text);
-        return x.village(text.length());
-    }
-
-    private static int law(WornWords x, String text) {
-        feed(x, text);
-        return x.law(text.length());
-    }
-
-    private static WornWords with(String village, String law) {
-        WornWords x = new WornWords();
-        village(x, village);
-        due("village " + village, x.fault(0), 0);
-        law(x, law);
-        due("law " + law, x.fault(0), 0);
-        return x;
-    }
-
-    private static WornWords with(String village) {
-        return with(village, "");
-    }
-
-    private static void row(WornWords x, int tray, long... numbers) {
-        x.tray(tray, 3, numbers.length);
-        for (int k = 0; k < numbers.length; k++) {
-            x.write(tray, k, numbers[k]);
-        }
-    }
-
-    private static long number(String letters) {
-        long n = 0;
-        for (char c : letters.toCharArray()) {
-            n = n * 32 + c - 'a' + 1;
-        }
-        return n;
-    }
-
-    private static String letters(long number) {
-        return number <= 0 ? "" : letters(number / 32) + (char) ('a' + number % 32 - 1);
-    }
-
-    private static void isForm(WornWords x, int word, String want) {
-        if (x.form(word) != number(want)) {
-            wrong++;
-            System.out.println("promise " + promise + ": form(" + word + ") is '" + letters(x.form(word)) + "', due is '" + want + "'");
-        }
+        end("all promises hold");
     }
 
     private static void newObject() {
@@ -281,14 +188,6 @@ public final class PromiseRuns {
         refused(x, "a faulty one", village(x, "word"), 9);
         given(x, "leaves the old one", x.told(4), 3);
         given(x, "leaves the old one", x.told(1), 3);
-    }
-
-    private static String twelve(String ahead, String behind) {
-        StringBuilder b = new StringBuilder();
-        for (char c = 'a'; c <= 'l'; c++) {
-            b.append(ahead).append(c).append(behind).append(";");
-        }
-        return b.toString();
     }
 
     private static void faulty(String text, int kind, int place) {
