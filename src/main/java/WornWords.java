@@ -1336,6 +1336,7 @@ public final class WornWords {
         static final int LAST_VOWEL = 5;
         static final int NO_LETTER = 6;
 
+        private static final int HARDER_THAN_ALL = 2 * Letters.LETTERS;
         /** Each piece of code comes of a WORD of its own, of two letters and more. */
         private static final int MOST_PIECES = MOST_LAW / 2;
 
@@ -1469,7 +1470,7 @@ public final class WornWords {
 
         private static int softestPlace(Word word, int[] softness) {
             int best = 0;
-            int least = Integer.MAX_VALUE;
+            int least = HARDER_THAN_ALL;
             for (int place = 0; place < word.size; place++) {
                 int rank = softness[word.letter(place)];
                 if (rank < least) {

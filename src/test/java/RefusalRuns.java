@@ -36,6 +36,7 @@ public final class RefusalRuns extends Checks {
         marks();
         promise = "2 and 9";
         withoutStatus();
+        zeroElse();
         end("refused calls change nothing");
     }
 
@@ -573,5 +574,69 @@ public final class RefusalRuns extends Checks {
         x.bottom();
         x.feed(0, 0, 0, 0, 0);
         due("status() of the told() ahead", x.status(), 0);
+    }
+
+    private static void zero(String call, long want, Call c) {
+        WornWords x = rich();
+        refused(x, "form(-1)", x.form(-1), 1);
+        given(x, call + " behind a refused call", c.on(x), want);
+        refused(x, "read(3, 0)", x.read(3, 0), 2);
+        given(x, "told(4)", x.told(4), 3);
+    }
+
+    /** Word 0 is "ston" by then, 1 is "tn", 2 is "tone". */
+    private static void zeroElse() {
+        promise = "2: 0 else";
+        zero("tray", 1, x -> flag(x.tray(0, 0, 1)));
+        zero("write", 1, x -> flag(x.write(0, 0, 1)));
+        zero("read", 1, x -> x.read(0, 1));
+        zero("pour", 1, x -> flag(x.pour(0, 0, 0, 1, 1)));
+        zero("law", 0, x -> x.law(0));
+        zero("told", 2, x -> x.told(0));
+        zero("form", number("tn"), x -> x.form(1));
+        zero("word", 2, x -> x.word(1, 0));
+        zero("words", 5, x -> x.words(0));
+        zero("loses", 0, x -> x.loses(1));
+        zero("chain", number("n"), x -> x.chain(1, 1));
+        zero("chain", 0, x -> x.chain(1, 2));
+        zero("life", 2, x -> x.life(1));
+        zero("common", 2, x -> x.common(0, 1));
+        zero("rhymes", 1, x -> x.rhymes(1, 1));
+        zero("lone", 0, x -> x.lone());
+        zero("mute", 0, x -> x.mute());
+        zero("lasts", 6, x -> x.lasts(1));
+        zero("spread", 1, x -> x.spread(1));
+        zero("wintry", 1, x -> x.wintry());
+        zero("say", 1, x -> x.say(1));
+        zero("tell", 2, x -> x.tell(0, 1, 2));
+        zero("follows", 1, x -> x.follows(0, 1));
+        zero("knows", number("ton"), x -> x.knows(0, 1));
+        zero("winter", 1, x -> x.winter());
+        zero("cut", 3, x -> x.cut(0, 1, 2, 1, 0));
+        zero("bestCut", 4, x -> x.bestCut(1, 1, 2));
+        zero("ways", 4, x -> x.ways(0, 2));
+        zero("fewest", 2, x -> x.fewest(0, 2));
+        zero("fewestAt", 1, x -> x.fewestAt(1));
+        zero("howFar", 3, x -> x.howFar(0, 3));
+        zero("cheap", 2, x -> x.cheap(1));
+        zero("story", 2, x -> x.story(0, 2));
+        zero("readings", 0, x -> x.readings(1, 1));
+        zero("gossiped", 3, x -> x.gossiped(0));
+        zero("odds", 1, x -> flag(x.odds(0, 1, 5)));
+        zero("mark", 3, x -> x.mark());
+        // Day 1 draws word 3, which is GONE; day 2 word 1, which the other SPEAKER knows as "ton".
+        zero("gossip", 1, x -> x.gossip(0, 2));
+        WornWords x = rich();
+        refused(x, "form(-1)", x.form(-1), 1);
+        given(x, "village(11)", x.village(11), 0);
+        refused(x, "form(-1)", x.form(-1), 1);
+        given(x, "pass(1)", x.pass(1), 1);
+        refused(x, "form(-1)", x.form(-1), 1);
+        given(x, "back()", x.back(), 1);
+        x = with("meaning m;word ab means m;word a means m;");
+        refused(x, "form(-1)", x.form(-1), 1);
+        given(x, "twin(0, 0)", x.twin(0, 0), 1);
+        refused(x, "form(-1)", x.form(-1), 1);
+        given(x, "twin(0, 1)", x.twin(0, 1), 1);
     }
 }

@@ -396,6 +396,16 @@ public final class TextEdges extends Checks {
         given(x, "none told: a is the softest", x.loses(0), 0);
         law(x, "if size>0 drop hard;");
         given(x, "none told: z is the hardest", x.loses(0), 1);
+        for (char c = 'a'; c <= 'z'; c++) {
+            char other = c == 'z' ? 'y' : 'z';
+            x = with("meaning m;soft " + c + other + ";word " + other + c + " means m;word " + c + other + " means m;", "if size>0 drop soft;");
+            given(x, c + " is softer than " + other, x.loses(0), 1);
+            given(x, c + " is softer than " + other, x.loses(1), 0);
+            x = with("meaning m;soft " + other + c + ";word " + other + c + " means m;word " + c + other + " means m;", "if size>0 drop soft;");
+            given(x, other + " is softer than " + c, x.loses(0), 0);
+            given(x, other + " is softer than " + c, x.loses(1), 1);
+        }
+        x = with("meaning m;word azmy means m;");
         village(x, "soft z;meaning m;word azmy means m;");
         village(x, "meaning m;word azmy means m;");
         law(x, "if size>0 drop soft;");
@@ -685,6 +695,21 @@ public final class TextEdges extends Checks {
         isForm(x, 0, "abcdef");
         given(x, "wintry", x.wintry(), 0);
         refused(x, "no word 2", x.form(2), 1);
+        x.pass(8);
+        said(x, 0, 3);
+        x.wintry();
+        x.lasts(0);
+        x.gossip(1, 9);
+        row(x, 0, 0);
+        x.story(0, 1);
+        x.wintry();
+        given(x, "behind calls that try what would be", village(x, text), 2);
+        given(x, "DAY", x.told(4), 0);
+        given(x, "said", x.word(0, 2), 0);
+        given(x, "lost", x.word(0, 4), 0);
+        given(x, "knows", x.knows(1, 0), number("abcdef"));
+        x.winter();
+        given(x, "wintry", x.wintry(), 0);
         given(x, "the empty one", x.village(0), 0);
         for (int what = 0; what < 6; what++) {
             given(x, "told(" + what + ")", x.told(what), 0);
