@@ -1208,6 +1208,12 @@ public final class PlainModelRuns {
                     text("law", randomLaw());
                 }
             }
+            if (r.nextInt(6) == 0) {
+                // Days as far as 99, at which those that a LAW counts stay, or as 999, the last one.
+                for (int k = r.nextBoolean() ? 1 : 10; k > 0; k--) {
+                    call("pass", r.nextInt(3) == 0 ? 99 : 90 + r.nextInt(10));
+                }
+            }
             for (int k = 0; k < CALLS && same; k++) {
                 randomCall();
             }
@@ -1375,8 +1381,15 @@ public final class PlainModelRuns {
                 b.append("speaker s").append((char) ('a' + k)).append("; ");
             }
             Set<String> have = new HashSet<>();
+            String latest = "";
             for (int k = r.nextInt(r.nextInt(5) == 0 ? 14 : 8); k > 0; k--) {
                 String f = letters(r.nextBoolean() ? 8 : 4);
+                if (r.nextInt(3) == 0 && !have.isEmpty()) {
+                    // A word like the one ahead but for an end, so that they become ONE now and then.
+                    f = latest.substring(0, (latest.length() + 1) / 2) + letters(2);
+                    f = f.substring(0, Math.min(f.length(), 8));
+                }
+                latest = f;
                 if (have.add(f)) {
                     b.append("word ").append(f).append(" means");
                     int set = 1 + r.nextInt((1 << Math.min(means, 12)) - 1);
@@ -1430,7 +1443,7 @@ public final class PlainModelRuns {
                 b.append(r.nextInt(3) == 0 ? "vowel" : letters(1));
             } else {
                 b.append(new String[] {"size", "said", "day", "idle"}[r.nextInt(4)]);
-                b.append("<>=".charAt(r.nextInt(3))).append(r.nextInt(r.nextInt(5) == 0 ? 110 : 6));
+                b.append("<>=".charAt(r.nextInt(3))).append(r.nextInt(8) == 0 ? 95 + r.nextInt(6) : r.nextInt(r.nextInt(5) == 0 ? 110 : 6));
             }
         }
 

@@ -289,6 +289,12 @@ public final class StoryEdges extends Checks {
         x.say(1);
         x.say(2);
         given(x, "the best that is left", x.howFar(0, 5), 2);
+        x = with("meaning m;meaning n;word c means m n;word d means n;word e means m;");
+        row(x, 0, 0, 1, 1, 1);
+        given(x, "a later word leads farther than the first one", x.howFar(0, 4), 3);
+        x = with("meaning m;meaning n;word e means m;word d means n;word c means m n;");
+        row(x, 0, 0, 1, 1, 1);
+        given(x, "an earlier word leads farther than the last one", x.howFar(0, 4), 3);
     }
 
     private static void cheap() {
@@ -522,6 +528,14 @@ public final class StoryEdges extends Checks {
         law(x, "if not shared drop first;");
         given(x, "not shared", read(x, "bcd"), 1);
         given(x, "though it is", x.loses(0), 3);
+        for (String idle : new String[] {"idle=0", "idle<1", "not idle>0", "not idle<0"}) {
+            x = with("meaning m;word abcd means m;", "if " + idle + " drop first;");
+            given(x, "ahead of all, " + idle, read(x, "bcd", "cd", "d"), 1);
+            x.pass(7);
+            x.say(0);
+            x.pass(2);
+            given(x, "idle as if never said, " + idle, read(x, "bcd", "cd", "d"), 1);
+        }
     }
 
     /** chain() tells the FORMS behind 0 to 39 sayings, and "at most 40" of them are a CHAIN. */

@@ -356,6 +356,25 @@ public final class TextEdges extends Checks {
         given(x, "1 for MEANING 0, 2 for 1 ..", x.word(0, 1), 4095);
         given(x, "word(1, 1)", x.word(1, 1), 2048);
         given(x, "word(2, 1)", x.word(2, 1), 1);
+        namesOfTheTextAhead();
+    }
+
+    private static void namesOfTheTextAhead() {
+        promise = "10, 12: NAMES are those of the text that is read, not of one ahead of it";
+        String[] ahead = {"meaning x;meaning y;speaker z;", "meaning x;meaning y;speaker z;)"};
+        for (String text : ahead) {
+            WornWords x = new WornWords();
+            village(x, text);
+            refused(x, "a MEANING of the text ahead", village(x, "meaning x;word q means y;"), 9);
+            due("fault(0)", x.fault(0), 3);
+            due("fault(1)", x.fault(1), 23);
+            village(x, text);
+            refused(x, "a MEANING of the text ahead, none told yet", village(x, "word q means x;"), 9);
+            due("fault(0)", x.fault(0), 3);
+            due("fault(1)", x.fault(1), 13);
+            village(x, text);
+            given(x, "NAMES of the text ahead are free again", village(x, "speaker y;speaker x;meaning z;word q means z;"), 1);
+        }
     }
 
     private static void softLetters() {

@@ -610,6 +610,20 @@ public final class WordEdges extends Checks {
         x.say(0);
         isForm(x, 0, "abc");
         given(x, "the same letters in another order: not", x.follows(1, 0), 0);
+        for (int less = 1; less <= 2; less++) {
+            x = with("meaning m;speaker s;speaker t;word abcde means m;", "if day=0 and size=5 drop middle;if day=0 drop none;if size>3 drop first;");
+            x.say(0);
+            x.tell(0, 0, 2);
+            given(x, "known as", x.knows(1, 0), number("abde"));
+            x.winter();
+            x.winter();
+            isForm(x, 0, "abcde");
+            x.pass(1);
+            said(x, 0, 1 + less);
+            isForm(x, 0, less == 1 ? "cde" : "cd");
+            given(x, less + " letters less, but one that it doesn't know: not", x.follows(1, 0), 0);
+            given(x, "told so, not understood", x.tell(0, 0, 2), 0);
+        }
     }
 
     private static void hearing() {
@@ -738,6 +752,32 @@ public final class WordEdges extends Checks {
         given(x, "days are no winter", x.wintry(), 0);
         given(x, "none gets a letter", x.winter(), 0);
         given(x, "on the same DAY", x.winter(), 1);
+        winterLeaves();
+    }
+
+    private static void winterLeaves() {
+        promise = "33: WINTER gives letters back, and changes no more of a word";
+        WornWords x = with("meaning m;meaning n;speaker s;speaker t;word abcd means n;word xyz means m n;");
+        x.pass(4);
+        x.tell(0, 0, 2);
+        x.say(0);
+        x.pass(3);
+        x.tell(1, 1, 0);
+        x.winter();
+        x.pass(2);
+        given(x, "winter", x.winter(), 2);
+        long[][] due = {{3, 2, 2, 4, 1, 4, number("abcd"), number("abcd")}, {3, 3, 1, 7, 0, 3, number("xyz"), number("xyz")}};
+        for (int word = 0; word < 2; word++) {
+            for (int what = 0; what < 6; what++) {
+                given(x, "word(" + word + ", " + what + ")", x.word(word, what), due[word][what]);
+            }
+            given(x, "knows(0, " + word + ")", x.knows(0, word), due[word][6]);
+            given(x, "knows(1, " + word + ")", x.knows(1, word), due[word][7]);
+        }
+        given(x, "DAY", x.told(4), 9);
+        law(x, "if idle=2 drop first;if idle=5 drop middle;");
+        given(x, "idle since it was said, not since the winter", x.loses(0), 1);
+        given(x, "idle since it was said, not since the winter", x.loses(1), 0);
     }
 
     private static void wintersOneBehindTheOther() {
@@ -932,6 +972,10 @@ public final class WordEdges extends Checks {
         x = with("meaning m;meaning n;word abc means m;word ab means n;", "if shared drop first;");
         given(x, "with the MEANINGS of both", x.lasts(1), 2);
         given(x, "said as often as both", x.lasts(0), 3);
+        x = with("meaning m;word abcd means m;word abcx means m;");
+        given(x, "by its CHEAP word each time, not one till it is GONE", x.lasts(0), 5);
+        x = with("meaning m;word abc means m;word xyzbc means m;", "if size>0 drop first;");
+        given(x, "the longest one first, of several the first", x.lasts(0), 6);
         x = with("meaning m;word abcd means m;word xy means m;", "if idle>0 drop none;");
         x.pass(5);
         given(x, "today: idle no more behind the first saying", x.lasts(0), 8);
@@ -1284,7 +1328,7 @@ public final class WordEdges extends Checks {
         for (int what = 0; what < 6; what++) {
             given(y, "told(" + what + ")", y.told(what), 0);
         }
-        promise = "47: TRAYS, the tape, the FRACTION are no part of a MARK";
+        promise = "47: TRAYS, the tape, the FRACTION, FAULTS are no part of a MARK";
         y = all.make();
         y.mark();
         row(y, 2, 5, 6);
@@ -1292,5 +1336,14 @@ public final class WordEdges extends Checks {
         y.back();
         given(y, "TRAY", y.read(2, 1), 6);
         given(y, "the tape", y.village(10), 0);
+        y = with("meaning m;speaker s;speaker t;word abcd means m;");
+        y.mark();
+        given(y, "odds", y.odds(1, 1, 4));
+        village(y, "meaning a;%");
+        y.back();
+        due("the top told latest", y.top(), 1);
+        due("the bottom told latest", y.bottom(), 1);
+        due("fault(0) told latest", y.fault(0), 1);
+        due("fault(1) told latest", y.fault(1), 10);
     }
 }
