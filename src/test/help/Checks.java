@@ -83,10 +83,8 @@ class Checks {
 
     static WornWords with(String village, String law) {
         WornWords x = new WornWords();
-        village(x, village);
-        due("village " + village, x.fault(0), 0);
-        law(x, law);
-        due("law " + law, x.fault(0), 0);
+        due("village " + village + " is taken", village(x, village) >= 0, true);
+        due("law " + law + " is taken", law(x, law) >= 0, true);
         return x;
     }
 

@@ -246,6 +246,10 @@ public final class StoryEdges extends Checks {
         x.howFar(0, 3);
         x.story(0, 1);
         rowIs(x, 0, 0);
+        x.mark();
+        rowIs(x, 0, 0);
+        x.back();
+        rowIs(x, 0, 0);
         law(x, "if begins d drop none;");
         given(x, "a shorter one", x.fewest(0, 1), 0);
         rowIs(x, 1);

@@ -17,6 +17,8 @@ public final class WordEdges extends Checks {
         idles();
         sharedOnes();
         lettersAsked();
+        deepestLaws();
+        longestLaws();
         gone();
         unions();
         unionsOfSayings();
@@ -410,6 +412,56 @@ public final class WordEdges extends Checks {
             asks("qqq" + c + "qqq", "has vowel", vowel);
             asks("q" + c, "begins vowel", false);
             asks(c + "q", "ends vowel", false);
+        }
+    }
+
+    /** What is asked within so many brackets: thirteen answers wait for one another before any two are joined. */
+    private static String nested(int answers, int level) {
+        String or = answer(answers, 2 * level) + "or ";
+        String and = answer(answers, 2 * level + 1) + "and";
+        return or + and + (level < 5 ? "(" + nested(answers, level + 1) + ")" : " " + answer(answers, 12));
+    }
+
+    private static String answer(int answers, int place) {
+        return (answers >> place & 1) == 1 ? "size>0" : "size<0";
+    }
+
+    private static boolean holds(int answers, int level) {
+        boolean or = (answers >> 2 * level & 1) == 1;
+        boolean and = (answers >> 2 * level + 1 & 1) == 1;
+        return or || and && (level < 5 ? holds(answers, level + 1) : (answers >> 12 & 1) == 1);
+    }
+
+    private static void deepestLaws() {
+        promise = "11, 17: EITHER, BOTH and ONE within as many brackets as can be, for all answers of the ONES";
+        WornWords x = null;
+        for (int answers = 0; answers < 1 << 13; answers++) {
+            if (answers % 30 == 0) {
+                x = with("meaning m;word abc means m;");
+            }
+            String law = nested(answers, 0);
+            due("if " + law, law(x, "if " + law + " drop first;"), 1);
+            due(law, x.loses(0) == 0, holds(answers, 0));
+        }
+    }
+
+    private static void longestLaws() {
+        promise = "11, 17: as many ONES as a LAW can have, with as many nots as it has bytes for";
+        for (int so = 0; so <= 10; so++) {
+            StringBuilder b = new StringBuilder("if ");
+            for (int k = 0; k < 10; k++) {
+                b.append(k > 0 ? "or " : "").append("not not not not not day").append(k == so ? ">0" : "<1");
+            }
+            WornWords x = with("meaning m;word abc means m;", b + "drop first;");
+            given(x, "ten ONES of five nots each, so is " + so, x.loses(0), so < 10 ? 0 : 2);
+        }
+        for (int so = 0; so <= 12; so++) {
+            StringBuilder b = new StringBuilder();
+            for (int k = 0; k < 12; k++) {
+                b.append("if not day").append(k == so ? ">0 drop first;" : "<1 drop none;");
+            }
+            WornWords x = with("meaning m;word abc means m;", b.toString());
+            given(x, "twelve RULES, so is " + so, x.loses(0), so < 12 ? 0 : 2);
         }
     }
 
