@@ -185,6 +185,13 @@ public final class StoryEdges extends Checks {
         row(x, 0, 0, 0, 0, 0, 0);
         given(x, "the last of twelve", x.fewest(0, 4), 0);
         given(x, "and one more", x.fewest(0, 5), 1);
+        x = with("meaning m;word abc means m;word xyz means m;", "if begins x drop none;if size>0 drop last;");
+        row(x, 0, 0, 0);
+        given(x, "none lost by the first of two RULES", x.fewest(0, 2), 0);
+        rowIs(x, 1, 1);
+        law(x, "if begins a drop last;if size>0 drop none;");
+        given(x, "none lost by the last of two RULES", x.fewest(0, 2), 0);
+        rowIs(x, 1, 1);
     }
 
     private static void rowIs(WornWords x, int... words) {
@@ -811,6 +818,26 @@ public final class StoryEdges extends Checks {
         due("top stays", x.top(), top);
         x.gossip(1, 1);
         due("gossip() tells no FRACTION", x.top(), top);
+        // 589 by 678, a FRACTION for which Euclid takes eleven rounds.
+        StringBuilder text = new StringBuilder("meaning m;speaker s;speaker t;speaker u;speaker v;");
+        for (char c = 'a'; c <= 'l'; c++) {
+            text.append("word ").append(("" + c).repeat(8)).append(" means m;");
+        }
+        x = with(text.toString());
+        for (int word = 0; word < 12; word += 2) {
+            said(x, word, 4);
+        }
+        long understood = 0;
+        long heard = 0;
+        for (int seed = 25; seed < 40; seed++) {
+            understood += x.gossip(seed, 50);
+            heard += x.gossiped(1);
+        }
+        due("understood, by seeds", understood, 1767);
+        due("heard, by seeds", heard, 2034);
+        given(x, "fifteen seeds", x.odds(25, 15, 50));
+        due("top", x.top(), 589);
+        due("bottom", x.bottom(), 678);
     }
 
     /** The dearest calls, 512 on one object. */

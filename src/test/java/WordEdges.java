@@ -1126,6 +1126,16 @@ public final class WordEdges extends Checks {
         given(x, "of a lesser number", x.twin(1, 0), 0);
         x = with("meaning m;word a means m;word b means m;");
         refused(x, "GONE is alike to none", x.twin(0, 0), 6);
+        x = with("meaning m;word ab means m;word a means m;", "if idle=3 drop none;if said=1 drop none;");
+        x.pass(3);
+        given(x, "as many days ago as it is: none lost by the first saying, nor by the second", x.twin(0, 1), 3);
+        x.say(0);
+        given(x, "said once: none lost by the first", x.twin(0, 1), 2);
+        x.pass(3);
+        x.say(0);
+        x.pass(1);
+        given(x, "said twice, a day ago: the first loses one", x.twin(0, 1), 1);
+        given(x, "which", x.twin(0, 0), 1);
     }
 
     private static void chainsToday() {
