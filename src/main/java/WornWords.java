@@ -1554,8 +1554,10 @@ public final class WornWords {
 
         int letterSet() {
             int set = 0;
-            for (long rest = form; rest > 0; rest >>= Letters.BITS) {
+            long rest = form;
+            for (int k = 0; k < size; k++) {
                 set |= 1 << (int) (rest & Letters.MASK);
+                rest >>= Letters.BITS;
             }
             return set;
         }
